@@ -36,11 +36,13 @@ public final class ModelTest {
     private final RunwayLoom loom = new RunwayLoom();
     private final Model model = new Model();
     private final boolean isBusy;
+    private final boolean isHub;
     private final boolean isWrongAtTimes;
 
     private ModelTest(long seed) {
         random = new Random(seed);
         isBusy = random.nextBoolean();
+        isHub = random.nextBoolean();
         isWrongAtTimes = random.nextInt(3) == 0;
     }
 
@@ -77,18 +79,19 @@ public final class ModelTest {
         int family = number(0, isBusy ? 1 : 2);
         int airport = random.nextInt(4) == 0 ? number(0, 3) : 0;
         int turn = number(20, isBusy ? 90 : 40);
-        int seats = number(1, isBusy ? 100 : 300);
-        int minutes = random.nextInt(4) == 0 ? number(0, 400) : number(400, 2000);
-        int landings = random.nextInt(5) == 0 ? number(0, 3) : number(3, 20);
+        int seats = random.nextInt(3) == 0 ? number(1, 300) : pick(30, 90);
+        int minutes = random.nextInt(9) == 0 ? number(0, 400) : number(400, 2000);
+        int landings = random.nextInt(9) == 0 ? number(0, 3) : number(3, 20);
         same("addAircraft(" + family + ", " + airport + ", " + turn + ", " + seats + ", " + minutes + ", " + landings + ")",
                 () -> loom.addAircraft(family, airport, turn, seats, minutes, landings),
                 () -> model.addAircraft(family, airport, turn, seats, minutes, landings));
     }
 
     private void crew() {
-        int airport = random.nextInt(4) == 0 ? number(0, 3) : 0;
-        int report = random.nextInt(4) == 0 ? number(0, 1439) : pick(300, 480);
-        int families = random.nextInt(4) == 0 ? number(1, 7) : 7;
+        boolean isPaired = model.teams.size() < model.planes.size() && random.nextInt(9) > 0;
+        int airport = isPaired ? model.planes.get(model.teams.size()).airport : number(0, 3);
+        int report = random.nextInt(9) == 0 ? number(0, 1439) : pick(300, 380);
+        int families = random.nextInt(9) == 0 ? number(1, 7) : 7;
         boolean rested = coin();
         same("addCrew(" + airport + ", " + report + ", " + families + ", " + rested + ")",
                 () -> loom.addCrew(airport, report, families, rested),
@@ -107,7 +110,7 @@ public final class ModelTest {
         int planes = Math.max(1, model.planes.size());
         int teams = Math.max(1, model.teams.size());
         int aircraft = number(0, planes - 1);
-        int crew = random.nextInt(5) == 0 ? number(0, teams - 1) : Math.min(aircraft, teams - 1);
+        int crew = random.nextInt(9) == 0 ? number(0, teams - 1) : Math.min(aircraft, teams - 1);
         int off = -1;
         int at = 0;
         for (Model.Leg l : model.legs) {
@@ -120,10 +123,10 @@ public final class ModelTest {
         if (isFirst && aircraft >= 0 && aircraft < model.planes.size()) {
             at = model.planes.get(aircraft).airport;
         }
-        int from = random.nextInt(12) == 0 ? number(0, 3) : at;
-        int to = from == 0 ? number(1, 3) : random.nextInt(20) == 0 ? number(0, 3) : 0;
-        int next = isFirst ? (isBusy ? pick(400, 440) : pick(380, 700)) : off + pick(60, isBusy ? 100 : 150);
-        int when = random.nextInt(12) == 0 ? number(0, 1439) : next;
+        int from = random.nextInt(25) == 0 ? number(0, 3) : at;
+        int to = from == 0 ? number(1, 3) : random.nextInt(30) == 0 ? number(0, 3) : 0;
+        int next = isFirst ? (isBusy || coin() ? pick(400, 430) : pick(430, 700)) : off + (isBusy ? pick(60, 100) : pick(95, 220));
+        int when = random.nextInt(25) == 0 ? number(0, 1439) : next;
         same("addFlight(" + from + ", " + to + ", " + when + ", " + aircraft + ", " + crew + ")",
                 () -> loom.addFlight(from, to, when, aircraft, crew),
                 () -> model.addFlight(from, to, when, aircraft, crew));
@@ -133,16 +136,17 @@ public final class ModelTest {
         int first = flight();
         int second = -1;
         if (coin() && first >= 0 && first < model.legs.size()) {
-            for (int k = 0; k < 6 && second < 0; k++) {
+            for (int k = 0; k < 20 && second < 0; k++) {
                 int tried = random.nextInt(model.legs.size());
-                boolean isBehind = model.legs.get(tried).off > model.legs.get(first).off;
+                int behind = model.legs.get(tried).off - model.legs.get(first).off;
+                boolean isBehind = behind > 0 && (k > 12 || behind > 60 && behind < 150);
                 if (model.legs.get(tried).from == model.legs.get(first).to && isBehind) {
                     second = tried;
                 }
             }
         }
         int other = isWrongAtTimes && random.nextInt(8) == 0 ? number(-1, 9) : second;
-        int people = number(1, 50);
+        int people = isBusy ? number(1, 50) : number(1, 12);
         int rank = number(0, 2);
         boolean visa = random.nextInt(3) > 0;
         same("addGroup(" + first + ", " + other + ", " + people + ", " + rank + ", " + visa + ")",
@@ -292,16 +296,60 @@ public final class ModelTest {
         }
     }
 
+    /** Flights that come home from everywhere, and soon behind them the ones that their groups go on with. */
+    private void hub() {
+        for (int k = 0; k < 5; k++) {
+            int airport = k < 2 ? pick(1, 3) : 0;
+            int seats = pick(20, 80);
+            int family = pick(0, 2);
+            same("addAircraft", () -> loom.addAircraft(family, airport, 40, seats, 900, 9),
+                    () -> model.addAircraft(family, airport, 40, seats, 900, 9));
+            same("addCrew", () -> loom.addCrew(airport, 360, 7, true), () -> model.addCrew(airport, 360, 7, true));
+            boolean border = k < 3;
+            same("addStand", () -> loom.addStand(2, border), () -> model.addStand(2, border));
+        }
+        for (int k = 0; k < 9; k++) {
+            int plane = k % 5;
+            int out = pick(1, 3);
+            int from = k < 2 ? model.planes.get(plane).airport : 0;
+            int to = k < 2 ? 0 : out;
+            int off = k < 2 ? pick(405, 425) : k < 5 ? pick(505, 580) : pick(580, 700);
+            if (k < 7) {
+                same("addFlight(" + from + ", " + to + ", " + off + ", " + plane + ")",
+                        () -> loom.addFlight(from, to, off, plane, plane), () -> model.addFlight(from, to, off, plane, plane));
+            }
+        }
+        for (int f = 2; f < 7; f++) {
+            int flight = f;
+            int minutes = pick(0, 60);
+            same("waitFor(" + f + ", " + minutes + ")", () -> loom.waitFor(flight, minutes),
+                    () -> model.waitFor(flight, minutes));
+        }
+        for (int k = 0; k < 8; k++) {
+            int second = pick(2, 6);
+            int people = pick(1, 20);
+            int rank = pick(0, 2);
+            int first = k % 2;
+            same("addGroup(" + first + ", " + second + ", " + people + ", " + rank + ", true)",
+                    () -> loom.addGroup(first, second, people, rank, true),
+                    () -> model.addGroup(first, second, people, rank, true));
+        }
+    }
+
     private void run() {
-        for (int k = pick(1, 5); k > 0; k--) aircraft();
-        for (int k = pick(1, 5); k > 0; k--) crew();
-        for (int k = pick(0, 4); k > 0; k--) stand();
-        for (int k = pick(3, 12); k > 0; k--) flights();
+        if (isHub) {
+            hub();
+        } else {
+            for (int k = pick(1, 5); k > 0; k--) aircraft();
+            for (int k = Math.max(model.planes.size(), pick(1, 5)); k > 0; k--) crew();
+            for (int k = pick(0, 6); k > 0; k--) stand();
+            for (int k = pick(3, 12); k > 0; k--) flights();
+        }
         for (int k = pick(1, 14); k > 0; k--) party();
         for (int k = pick(0, 3); k > 0; k--) message();
         for (int k = pick(0, 3); k > 0; k--) weather();
         for (int k = pick(0, 3); k > 0; k--) field();
-        for (int k = pick(0, 6); k > 0; k--) change();
+        for (int k = pick(0, 10); k > 0; k--) change();
         sums();
         askFlights();
         askGroups();

@@ -272,7 +272,7 @@ public final class PlanTest {
         c.same("15 all behind them, too", y.swap(0, 1), 1);
         c.same("15 then the first one's is not", "" + y.state(2) + y.state(3), "xe");
         c.same("15 back again, from the last ones on", y.swap(2, 3), 0);
-        c.same("15 an aircraft in the wrong place, after a fault of none", "" + y.state(2) + y.state(3), "ex");
+        c.same("15 as it was", "" + y.state(2) + y.state(3), "ex");
     }
 
     private static void cancel() {

@@ -253,12 +253,14 @@ public final class RunwayLoom {
     }
 
     public char state(int flight) throws IndexOutOfBoundsException {
-        return courseOf(flight).state;
+        requireFlight(flight);
+        return today().courses[flight].state;
     }
 
     public int minuteOf(int flight, char event)
             throws IndexOutOfBoundsException, IllegalArgumentException, NoSuchElementException {
-        Course course = courseOf(flight);
+        requireFlight(flight);
+        Course course = today().courses[flight];
         int minute;
         switch (event) {
             case 'D': minute = course.shut; break;
@@ -273,19 +275,22 @@ public final class RunwayLoom {
     }
 
     public int standOf(int flight) throws IndexOutOfBoundsException, NoSuchElementException {
-        Course course = courseOf(flight);
+        requireFlight(flight);
+        Course course = today().courses[flight];
         requireFound(course.stand != NONE);
         return course.stand;
     }
 
     public char cause(int flight) throws IndexOutOfBoundsException, NoSuchElementException {
-        Course course = courseOf(flight);
+        requireFlight(flight);
+        Course course = today().courses[flight];
         requireFound(course.hasCause());
         return course.letterOfCause();
     }
 
     public int root(int flight) throws IndexOutOfBoundsException, NoSuchElementException {
-        Course course = courseOf(flight);
+        requireFlight(flight);
+        Course course = today().courses[flight];
         requireFound(course.hasCause());
         return today().rootOf(course).number;
     }
@@ -421,11 +426,6 @@ public final class RunwayLoom {
         if (count < 1) {
             throw new ArithmeticException("there are none");
         }
-    }
-
-    private Course courseOf(int flight) {
-        requireFlight(flight);
-        return today().courses[flight];
     }
 
     /** The day as it is with all that was told; it is run once for each change. */
@@ -803,7 +803,7 @@ public final class RunwayLoom {
         }
 
         void run() {
-            begin();
+            startAnew();
             dropToldAhead();
             int wake = 0;
             for (int now = 0; now < MINUTES; now++) {
@@ -821,7 +821,7 @@ public final class RunwayLoom {
             }
         }
 
-        private void begin() {
+        private void startAnew() {
             log.length = 0;
             minute = 0;
             runwayMinute = NONE;
@@ -896,7 +896,12 @@ public final class RunwayLoom {
                 Message message = plan.messages[i];
                 if (message.comes == minute && !isOutdated(message)) {
                     isDone[i] = true;
-                    heed(message);
+                    Course course = courses[message.flight];
+                    if (message.kind != 'x') {
+                        heed(message, course);
+                    } else if (course.state == 's') {
+                        drop(course, 'x');
+                    }
                 }
             }
         }
@@ -912,17 +917,14 @@ public final class RunwayLoom {
             return false;
         }
 
-        private void heed(Message message) {
-            Course course = courses[message.flight];
+        private void heed(Message message, Course course) {
             if (message.kind == 'f') {
                 planes[course.flight.aircraft].faults |= 1 << course.flight.to;
-            } else if (message.kind == 'h') {
+            } else {
                 course.due = course.flight.off + message.number;
                 if (course.state == 's') {
                     course.next = course.due;
                 }
-            } else if (course.state == 's') {
-                drop(course, 'x');
             }
         }
 

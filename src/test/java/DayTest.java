@@ -241,6 +241,16 @@ public final class DayTest {
         cut.addFlight(0, 1, 430, 2, 1);
         cut.cancel(1);
         c.same("step 4 one ahead that is cancelled is not awaited", cut.minuteOf(2, 'D'), 430);
+        RunwayLoom crew = Check.home();
+        crew.addFlight(0, 1, 420, 0, 0);
+        crew.addFlight(0, 1, 425, 1, 0);
+        crew.hold(0, 10);
+        c.same("step 4 one ahead of just the crew is awaited", Check.log(crew), "430D0;435T0;495E0;495o1;");
+        RunwayLoom plane = Check.home();
+        plane.addFlight(0, 1, 420, 0, 0);
+        plane.addFlight(0, 1, 425, 0, 1);
+        plane.hold(0, 10);
+        c.same("step 4 one ahead of just the aircraft is awaited", Check.log(plane), "430D0;435T0;495E0;495o1;");
         RunwayLoom same = Check.home();
         same.addFlight(1, 0, 420, 0, 0);
         same.addFlight(0, 1, 420, 0, 0);
@@ -393,6 +403,11 @@ public final class DayTest {
         c.same("27 not on board", w.lateBags(), 0);
         c.same("26 not on board", w.isStranded(0), true);
         c.same("27 without a border the bag is ahead", connection(1, 520, 0).lateBags(), 0);
+        for (int off = 539; off <= 540; off++) {
+            RunwayLoom full = connection(2, off, 0);
+            full.addGroup(1, -1, 31, 0, true);
+            c.same("step 4 no seats, its bag is there from 540 on", full.minuteOf(1, 'T'), off == 539 ? 544 : 555);
+        }
     }
 
     private static void ice() {
@@ -495,6 +510,12 @@ public final class DayTest {
         x.addGroup(1, -1, 1, 0, true);
         c.same("step 7 41 of 40 seats", x.isStranded(0), true);
         c.missing("25 took none", () -> x.lastOf(0));
+        RunwayLoom y = new RunwayLoom();
+        add(y, 0, 1, 420);
+        add(y, 0, 1, 460);
+        y.addGroup(0, -1, 1, 0, false);
+        y.cancel(0);
+        c.same("step 7 without a visa on this side of the border", y.lastOf(0), 1);
     }
 
     private static void secondFlights() {
@@ -537,6 +558,13 @@ public final class DayTest {
         RunwayLoom held = connection(1, 500, 60);
         held.hold(1, 20);
         c.same("22 the group was not behind the due", held.cause(1), 'h');
+        held.hold(1, 19);
+        c.same("22 the group was just behind the due", held.cause(1), 'p');
+        RunwayLoom far = connection(2, 500, 60);
+        far.hold(1, 34);
+        c.same("22 the group from beyond the border was, too", far.cause(1), 'p');
+        far.hold(1, 35);
+        c.same("22 it was not", far.cause(1), 'h');
         RunwayLoom late = new RunwayLoom();
         late.addAircraft(1, 0, 30, 60, 900, 9);
         late.addCrew(0, 400, 7, true);
@@ -587,6 +615,21 @@ public final class DayTest {
         c.same("22 a ahead of h", h.cause(1), 'a');
         h.hold(1, 16);
         c.same("22 h came last", h.cause(1), 'h');
+        for (int report = 470; report <= 471; report++) {
+            RunwayLoom r = Check.home();
+            r.addCrew(1, report, 7, true);
+            r.addFlight(0, 1, 420, 0, 0);
+            r.addFlight(1, 0, 500, 0, 2);
+            c.same("22 the report plus 45 came last with 471", r.cause(1), report == 470 ? 'a' : 'h');
+        }
+        RunwayLoom o = Check.home();
+        o.addAircraft(1, 1, 30, 60, 900, 9);
+        o.addFlight(0, 1, 420, 0, 0);
+        o.addFlight(1, 0, 490, 2, 0);
+        o.hold(1, 10);
+        c.same("22 c ahead of h", o.cause(1), 'c');
+        o.hold(1, 11);
+        c.same("22 h came last, not c", o.cause(1), 'h');
     }
 
     private static void roots() {

@@ -21,6 +21,7 @@ public final class PlanTest {
         cancel();
         addGroup();
         tell();
+        whatIsToldCountsAtOnce();
         throwingChangesNothing();
         c.end("PlanTest");
     }
@@ -329,6 +330,44 @@ public final class PlanTest {
         }
         c.state("18 an eleventh one", () -> x.tell('h', 0, 0, 0, 0));
         c.argument("18 an eleventh one of no kind", () -> x.tell('d', 0, 0, 0, 0));
+    }
+
+    private static void change(RunwayLoom x, int number) {
+        switch (number) {
+            case 0: x.fly(0, 1, 90); break;
+            case 1: x.addAircraft(1, 0, 30, 60, 900, 9); break;
+            case 2: x.fault(0, 0); break;
+            case 3: x.addCrew(0, 360, 7, true); break;
+            case 4: x.addStand(1, true); break;
+            case 5: x.turnRunway(430); break;
+            case 6: x.ice(600, 800); break;
+            case 7: x.setPads(0); break;
+            case 8: x.addFlight(0, 1, 900, 1, 1); break;
+            case 9: x.slot(0, 470); break;
+            case 10: x.trade(2, 3); break;
+            case 11: x.hold(2, 90); break;
+            case 12: x.waitFor(2, 60); break;
+            case 13: x.swap(2, 3); break;
+            case 14: x.cancel(1); break;
+            case 15: x.addGroup(2, -1, 50, 0, true); break;
+            case 16: x.tell('x', 1, 0, 400, 400); break;
+            default: x.recover(6);
+        }
+    }
+
+    /** A day that was asked about ahead of a change is the same then as one that was not. */
+    private static void whatIsToldCountsAtOnce() {
+        for (int i = 0; i < 18; i++) {
+            RunwayLoom asked = Check.rich();
+            Check.picture(asked);
+            change(asked, i);
+            RunwayLoom notAsked = Check.rich();
+            change(notAsked, i);
+            c.same("change " + i + ", asked ahead", Check.picture(asked), Check.picture(notAsked));
+        }
+        RunwayLoom twice = Check.rich();
+        String first = Check.picture(twice);
+        c.same("asked twice", Check.picture(twice), first);
     }
 
     /** Every wrong call, on an airline with something of everything, leaves what a twin without the calls shows. */

@@ -12,6 +12,20 @@ final class Check {
         }
     }
 
+    /** A call on an airline, with a number to try. */
+    interface Trial {
+        Object on(RunwayLoom x, int number);
+    }
+
+    /** What a call answers for each of some numbers, each on an airline of its own. */
+    static String each(java.util.function.IntFunction<Object> answer, int... numbers) {
+        StringBuilder text = new StringBuilder();
+        for (int number : numbers) {
+            text.append(text.length() == 0 ? "" : " ").append(outcome(() -> answer.apply(number)));
+        }
+        return text.toString();
+    }
+
     /** An exception's simple name, or what the call answered. */
     static String outcome(java.util.function.Supplier<Object> call) {
         try {
@@ -50,7 +64,8 @@ final class Check {
 
     static String log(RunwayLoom x) {
         StringBuilder text = new StringBuilder();
-        for (int i = 0; i < x.logLength(); i++) {
+        int length = x.logLength();
+        for (int i = 0; i < length; i++) {
             text.append(x.logAt(i));
         }
         return text.toString();
@@ -107,6 +122,17 @@ final class Check {
                 + outcome(() -> x.addCrew(0, 0, 1, true)) + outcome(() -> x.addStand(0, true))
                 + outcome(() -> x.addFlight(0, 1, 0, 0, 0)) + outcome(() -> x.addGroup(0, -1, 1, 0, true))
                 + outcome(() -> x.tell('x', 0, 0, 0, 0)) + outcome(() -> x.turnRunway(0));
+    }
+
+    /** An aircraft of family 1 and a rested crew at an airport, with a first flight of both. */
+    static int add(RunwayLoom x, int from, int to, int off) {
+        return addOf(x, 1, from, to, off);
+    }
+
+    static int addOf(RunwayLoom x, int family, int from, int to, int off) {
+        int aircraft = x.addAircraft(family, from, 30, 40, 900, 9);
+        int crew = x.addCrew(from, 360, 7, true);
+        return x.addFlight(from, to, off, aircraft, crew);
     }
 
     /** Two aircraft of family 1 and their crews at home, and a stand. */

@@ -29,17 +29,6 @@ public final class DayTest {
         c.end("DayTest");
     }
 
-    /** An aircraft of family 1 and a rested crew at an airport, with a first flight of both. */
-    private static int add(RunwayLoom x, int from, int to, int off) {
-        return addOf(x, 1, from, to, off);
-    }
-
-    private static int addOf(RunwayLoom x, int family, int from, int to, int off) {
-        int aircraft = x.addAircraft(family, from, 30, 40, 900, 9);
-        int crew = x.addCrew(from, 360, 7, true);
-        return x.addFlight(from, to, off, aircraft, crew);
-    }
-
     private static void logOfADay() {
         RunwayLoom x = Check.outAndBack();
         c.same("31 length", x.logLength(), 42);
@@ -157,9 +146,9 @@ public final class DayTest {
         x.addStand(2, true);
         x.addStand(2, true);
         x.addStand(2, true);
-        addOf(x, 2, 1, 0, 421);
-        addOf(x, 0, 2, 0, 420);
-        addOf(x, 0, 3, 0, 421);
+        Check.addOf(x, 2, 1, 0, 421);
+        Check.addOf(x, 0, 2, 0, 420);
+        Check.addOf(x, 0, 3, 0, 421);
         c.same("step 2 by the minute, then by numbers, and apart", Check.log(x),
                 "420D1;421D0;421D2;425T1;426T0;426T2;485L1;487L0;490E1;491L2;492E0;496E2;");
         RunwayLoom y = Check.outAndBack();
@@ -178,16 +167,16 @@ public final class DayTest {
         x.addStand(0, true);
         x.addStand(2, false);
         x.addStand(1, true);
-        add(x, 1, 0, 420);
-        add(x, 2, 0, 440);
+        Check.add(x, 1, 0, 420);
+        Check.add(x, 2, 0, 440);
         c.same("21 not smaller, the lowest one", x.standOf(0), 1);
         c.same("21 with a border", x.standOf(1), 2);
         RunwayLoom y = new RunwayLoom();
         y.addStand(1, true);
         y.addStand(1, false);
-        add(y, 1, 0, 420);
-        add(y, 2, 0, 440);
-        add(y, 1, 0, 460);
+        Check.add(y, 1, 0, 420);
+        Check.add(y, 2, 0, 440);
+        Check.add(y, 1, 0, 460);
         c.same("21 others may have a border, too", y.standOf(0), 0);
         c.missing("21 none with a border is free", () -> y.standOf(1));
         c.same("step 3 60 minutes behind the landing it ends", Check.log(y, 1), "440D1;445T1;505L1;565E1;");
@@ -202,7 +191,7 @@ public final class DayTest {
     /** The only stand is that of an aircraft whose doors shut at a minute; flight 2 has landed at 595. */
     private static RunwayLoom standTaken(int shut) {
         RunwayLoom x = Check.outAndBack();
-        add(x, 1, 0, 530);
+        Check.add(x, 1, 0, 530);
         x.addFlight(0, 1, shut, 0, 0);
         return x;
     }
@@ -261,8 +250,8 @@ public final class DayTest {
     private static RunwayLoom connection(int airport, int off, int wait) {
         RunwayLoom x = new RunwayLoom();
         x.addStand(2, true);
-        add(x, airport, 0, 420);
-        add(x, 0, 1, off);
+        Check.add(x, airport, 0, 420);
+        Check.add(x, 0, 1, off);
         x.waitFor(1, wait);
         x.addGroup(0, 1, 10, 1, true);
         return x;
@@ -460,8 +449,8 @@ public final class DayTest {
 
     private static void takeOffs(String what, int first, int second, int minute) {
         RunwayLoom x = new RunwayLoom();
-        addOf(x, first, 0, 1, 420);
-        addOf(x, second, 0, 1, 420);
+        Check.addOf(x, first, 0, 1, 420);
+        Check.addOf(x, second, 0, 1, 420);
         c.same(what, x.minuteOf(1, 'T'), minute);
     }
 
@@ -471,8 +460,8 @@ public final class DayTest {
         takeOffs("step 6 two larger ahead", 2, 0, 429);
         takeOffs("step 6 smaller ahead", 0, 2, 427);
         RunwayLoom x = new RunwayLoom();
-        addOf(x, 2, 1, 0, 420);
-        addOf(x, 0, 0, 1, 481);
+        Check.addOf(x, 2, 1, 0, 420);
+        Check.addOf(x, 0, 0, 1, 481);
         c.same("step 6 behind a landing", "" + x.minuteOf(0, 'L') + ' ' + x.minuteOf(1, 'T'), "485 489");
         RunwayLoom y = Check.outAndBack();
         y.turnRunway(416);
@@ -487,11 +476,11 @@ public final class DayTest {
 
     private static void bookedAnew() {
         RunwayLoom x = new RunwayLoom();
-        add(x, 0, 2, 420);
-        add(x, 0, 2, 600);
-        add(x, 0, 2, 500);
-        add(x, 0, 1, 450);
-        add(x, 0, 2, 500);
+        Check.add(x, 0, 2, 420);
+        Check.add(x, 0, 2, 600);
+        Check.add(x, 0, 2, 500);
+        Check.add(x, 0, 1, 450);
+        Check.add(x, 0, 2, 500);
         x.addGroup(0, -1, 30, 2, true);
         x.addGroup(0, -1, 30, 1, true);
         x.addGroup(0, -1, 5, 0, false);
@@ -511,8 +500,8 @@ public final class DayTest {
         c.same("step 7 41 of 40 seats", x.isStranded(0), true);
         c.missing("25 took none", () -> x.lastOf(0));
         RunwayLoom y = new RunwayLoom();
-        add(y, 0, 1, 420);
-        add(y, 0, 1, 460);
+        Check.add(y, 0, 1, 420);
+        Check.add(y, 0, 1, 460);
         y.addGroup(0, -1, 1, 0, false);
         y.cancel(0);
         c.same("step 7 without a visa on this side of the border", y.lastOf(0), 1);
@@ -520,19 +509,19 @@ public final class DayTest {
 
     private static void secondFlights() {
         RunwayLoom x = connection(1, 500, 0);
-        int third = add(x, 0, 1, 700);
+        int third = Check.add(x, 0, 1, 700);
         c.same("step 7 one that stayed behind", x.lastOf(0), third);
         x.cancel(1);
         c.same("a second flight that is cancelled ahead counts as cancelled at boarding", x.lastOf(0), third);
         RunwayLoom y = connection(1, 500, 0);
-        add(y, 0, 1, 415);
-        add(y, 0, 1, 430);
+        Check.add(y, 0, 1, 415);
+        Check.add(y, 0, 1, 430);
         y.cancel(1);
         c.same("what was scheduled at boarding is due first, and stays behind", y.lastOf(0), 0);
         c.same("and there is no other one then", y.isStranded(0), true);
         RunwayLoom z = connection(1, 500, 60);
         z.tell('x', 1, 0, 1, 450);
-        int behind = add(z, 0, 1, 460);
+        int behind = Check.add(z, 0, 1, 460);
         z.waitFor(behind, 60);
         c.same("step 7 while it flies", z.lastOf(0), behind);
         c.same("step 4 it is awaited there", z.minuteOf(behind, 'D'), 520);

@@ -199,6 +199,14 @@ public final class DoorTest {
         two.addGroup(2, 1, 10, 1, true);
         two.addStand(2, true);
         c.same("step 4 all of them are awaited", "" + minute(two, 1, 'D') + two.lastOf(0) + two.lastOf(1), "53711");
+        RunwayLoom nobody = new RunwayLoom();
+        Check.add(nobody, 0, 1, 420);
+        nobody.waitFor(0, 60);
+        c.same("step 4 there is nobody to be awaited", minute(nobody, 0, 'D'), 420);
+        for (int i = 0; i < 12; i++) {
+            nobody.addGroup(0, -1, 1 + i, i % 3, true);
+        }
+        c.same("step 4 twelve groups that are there", minute(nobody, 0, 'D'), 420);
         RunwayLoom gone = connection(1, 1, 500, 60);
         gone.tell('x', 0, 0, 5, 415);
         c.same("step 4 a stranded group is not awaited", minute(gone, 1, 'D'), 500);

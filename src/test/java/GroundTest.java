@@ -5,6 +5,7 @@ public final class GroundTest {
     public static void main(String[] args) {
         whenThereIsIce();
         pads();
+        padsOneByOne();
         padsInLine();
         onAPad();
         leftAPad();
@@ -87,6 +88,20 @@ public final class GroundTest {
                 Check.each(flight -> minute(x, flight, 'P'), 0, 1, 2, 3, 4), "425 425 435 435 none");
         x.ice(400, 445);
         c.same("step 5 there is ice then", minute(x, 4, 'P'), "445");
+    }
+
+    private static void padsOneByOne() {
+        for (int pads = 1; pads <= 3; pads++) {
+            RunwayLoom x = new RunwayLoom();
+            for (int i = 0; i < 4; i++) {
+                Check.add(x, 0, 1, 420 + i);
+            }
+            x.ice(400, 470);
+            x.setPads(pads);
+            String[] due = {"425 435 445 455", "425 426 435 436", "425 426 427 435"};
+            c.same("step 5 " + pads + " pads, one by one", Check.each(flight -> minute(x, flight, 'P'), 0, 1, 2, 3),
+                    due[pads - 1]);
+        }
     }
 
     private static void padsInLine() {
@@ -349,6 +364,15 @@ public final class GroundTest {
             x.addGroup(0, -1, people, 0, true);
             return taken(x, 1);
         }, 39, 40, 41), "1 1 none!");
+        c.same("step 7 seats for those who were booked ahead, too", Check.each(people -> {
+            RunwayLoom x = new RunwayLoom();
+            Check.add(x, 0, 1, 600);
+            Check.add(x, 0, 1, 500);
+            x.addGroup(1, -1, people, 2, true);
+            x.addGroup(0, -1, 10, 0, true);
+            x.cancel(0);
+            return taken(x, 1);
+        }, 29, 30, 31), "1 1 none!");
         c.same("step 7 seats for those who are booked, too", Check.each(people -> {
             RunwayLoom x = cancelled(600, 300, 500);
             x.addGroup(1, -1, 10, 2, true);

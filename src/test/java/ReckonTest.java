@@ -28,6 +28,7 @@ public final class ReckonTest {
         mostHoldsOfPlans();
         chosenPlans();
         swaps();
+        swapsOfTen();
         trades();
         c.end("ReckonTest");
     }
@@ -123,6 +124,11 @@ public final class ReckonTest {
         c.same("22 i and q", Check.each(queued -> cause(0, 0, 9, 0, queued), 8, 9, 10), "i i q");
         c.same("22 s and q", Check.each(queued -> cause(0, 0, 0, 9, queued), 8, 9, 10), "s s q");
         c.same("22 i, s and q", Check.each(iced -> cause(0, 0, iced, 9, 9), 8, 9, 10), "s i i");
+        c.same("22 a missed slot: the minute of that, and 14 till the next one", Check.each(hold -> {
+            RunwayLoom x = held(hold);
+            x.slot(0, 0);
+            return "" + x.cause(0) + (x.minuteOf(0, 'T') - x.minuteOf(0, 'D'));
+        }, 13, 14, 15, 16), "s20 s20 h20 h20");
         RunwayLoom pad = held(9);
         pad.ice(434, 434);
         c.same("22 the 10 minutes on a pad", pad.cause(0), 'i');
@@ -255,6 +261,19 @@ public final class ReckonTest {
         x.addStand(1, true);
         x.addGroup(2, 1, 10, 0, true);
         c.same("22 p, the group that was present last", causeAndRoot(x, 1) + minute(x, 1, 'D'), "p2531");
+        for (int rank = 0; rank <= 2; rank++) {
+            RunwayLoom both = new RunwayLoom();
+            both.addStand(1, true);
+            both.addStand(1, true);
+            Check.add(both, 2, 0, 420);
+            Check.add(both, 1, 0, 435);
+            Check.add(both, 0, 1, 500);
+            both.waitFor(2, 60);
+            both.addGroup(1, 2, 10, 1, true);
+            both.addGroup(0, 2, 10, rank, true);
+            c.same("22 p, present in the same minute: the first one on board, of classes 1 and " + rank,
+                    causeAndRoot(both, 2) + minute(both, 2, 'D'), rank == 0 ? "p0535" : "p1535");
+        }
         RunwayLoom left = connection(1, 500, 0);
         Check.add(left, 1, 0, 431);
         left.addStand(1, true);
@@ -416,6 +435,7 @@ public final class ReckonTest {
         }
         c.same("29 twelve stranded groups of 50", x.harm(), 12 * 50 * 600);
         c.same("30 twelve stranded groups of 50", x.paid(), 12 * 50 * 250);
+        c.same("36 twelve stranded groups of 50", x.meanLateness(), 600.0);
     }
 
     private static String lateAndPaid(RunwayLoom x) {
@@ -613,6 +633,14 @@ public final class ReckonTest {
             text.append(Check.outcome(() -> x.swap(each, mark)).equals("1") ? 0 : 1);
         }
         return text.toString();
+    }
+
+    private static void swapsOfTen() {
+        RunwayLoom x = Check.home();
+        for (int i = 0; i < 10; i++) {
+            x.addFlight(0, 1, 420 + 10 * i, i % 2, 0);
+        }
+        c.same("15 all of ten flights", x.swap(0, 1) + " " + x.swap(9, 8) + " " + x.swap(8, 9), "1 1 1");
     }
 
     private static void swaps() {

@@ -18,6 +18,9 @@ public final class StepTest {
         standsInTime();
         standsThatFit();
         standsInLine();
+        standsOfAnotherRun();
+        messagesOfAnotherRun();
+        minutesInTheLog();
         c.end("StepTest");
     }
 
@@ -349,6 +352,16 @@ public final class StepTest {
         RunwayLoom x = new RunwayLoom();
         Check.add(x, 1, 0, 420);
         c.same("step 3 there are no stands", log(x, 0), "420D0;425T0;485L0;545E0;");
+        RunwayLoom small = new RunwayLoom();
+        Check.addOf(small, 0, 1, 0, 420);
+        c.same("step 3 there are none for the smallest family, too", parked(small, 0), "545,NoSuchElement");
+        RunwayLoom six = new RunwayLoom();
+        for (int i = 0; i < 6; i++) {
+            six.addStand(1, false);
+        }
+        Check.addOf(six, 2, 1, 0, 420);
+        Check.addOf(six, 0, 2, 0, 440);
+        c.same("step 3 none of six fits", parked(six, 0) + ' ' + parked(six, 1), "545,NoSuchElement 565,NoSuchElement");
         RunwayLoom y = standTaken(700);
         y.addGroup(1, -1, 7, 0, true);
         c.same("24 an end without a stand is an end", y.lateness(0), 645 - 520 - 60);
@@ -389,5 +402,54 @@ public final class StepTest {
         Check.add(y, 1, 0, 540);
         c.same("step 3 by the minute of landing: ended without one, then the first one in line, then none",
                 parked(y, 1) + ' ' + parked(y, 4) + ' ' + parked(y, 3), "645,NoSuchElement 651,0 671,NoSuchElement");
+    }
+
+    private static void standsOfAnotherRun() {
+        RunwayLoom x = Check.outAndBack();
+        c.same("step 3 all stands are free at first", parked(x, 1), "590,0");
+        x.waitFor(0, 5);
+        c.same("step 3 and again, as the day is run anew", parked(x, 1), "590,0");
+        Check.add(x, 1, 0, 520);
+        c.same("step 3 one stand for two", parked(x, 2), "647,NoSuchElement");
+        x.addStand(1, false);
+        c.same("6 a stand that is added counts at once", parked(x, 2), "592,1");
+        RunwayLoom y = new RunwayLoom();
+        y.addStand(1, true);
+        Check.add(y, 1, 0, 420);
+        Check.add(y, 1, 0, 500);
+        c.same("step 3 the first one keeps it", parked(y, 0) + ' ' + parked(y, 1), "490,0 625,NoSuchElement");
+        y.hold(0, 240);
+        c.same("step 3 and does not, as it comes later", parked(y, 0) + ' ' + parked(y, 1), "785,NoSuchElement 570,0");
+    }
+
+    private static void messagesOfAnotherRun() {
+        for (int first = 0; first <= 1; first++) {
+            RunwayLoom x = new RunwayLoom();
+            Check.add(x, 0, 1, 410);
+            for (int i = 0; i < 2; i++) {
+                boolean isLater = i != first;
+                x.tell('h', 0, isLater ? 50 : 20, isLater ? 200 : 100, isLater ? 440 : 300);
+            }
+            c.same("step 1 what comes later is not done yet", minute(x, 0, 'D'), 430);
+            x.waitFor(0, 5);
+            c.same("step 1 nor is it as the day is run anew", minute(x, 0, 'D'), 430);
+        }
+    }
+
+    private static void minutesInTheLog() {
+        int[] minutes = {0, 1, 9, 10, 11, 99, 100, 101, 999, 1000, 1001, 1010, 1100, 1399};
+        for (int comes : minutes) {
+            RunwayLoom x = new RunwayLoom();
+            Check.add(x, 0, 1, 1439);
+            x.tell('x', 0, 0, 0, comes);
+            c.same("32 the minute " + comes, Check.log(x), comes + "x0;");
+            c.same("31 the minute " + comes, x.logLength(), String.valueOf(comes).length() + 3);
+        }
+        RunwayLoom ten = Check.home();
+        for (int i = 0; i < 10; i++) {
+            ten.addFlight(0, 1, 420, 0, 0);
+            ten.cancel(i);
+        }
+        c.same("32 the numbers of ten flights", Check.log(ten), "0x0;0x1;0x2;0x3;0x4;0x5;0x6;0x7;0x8;0x9;");
     }
 }

@@ -151,14 +151,16 @@ public final class RecoverTest {
     }
 
     private static void isBestChangesNothing() {
-        RunwayLoom x = Check.rich();
-        RunwayLoom y = Check.rich();
-        String before = Check.picture(x);
+        String untouched = Check.lastPicture(Check.rich());
         for (int flights = 1; flights < 15; flights++) {
+            RunwayLoom x = Check.rich();
             x.isBest(flights);
-            c.same("34 nothing is changed", Check.picture(x), before);
+            c.same("34 nothing is changed", Check.lastPicture(x), untouched);
+            RunwayLoom asked = Check.rich();
+            asked.harm();
+            asked.isBest(flights);
+            c.same("34 nothing is changed, asked ahead", Check.lastPicture(asked), untouched);
         }
-        c.same("34 nor anything that was told", Check.lastPicture(x), Check.lastPicture(y));
     }
 
     private static void isSound() {

@@ -507,7 +507,7 @@ public final class DoorTest {
     private static void secondFlights() {
         c.same("a second flight that is cancelled behind the boarding, at it, and ahead of it", Check.each(comes -> {
             RunwayLoom x = connection(1, 1, 560, 0);
-            Check.add(x, 0, 1, 420 + 140);
+            Check.add(x, 0, 1, 560);
             x.tell('x', 1, 0, 5, comes);
             return "" + x.lastOf(0) + x.cause(1) + x.cause(2);
         }, 419, 420, 421, 559, 560, 561), "2x- 2x- 2x- 2x- 0x- 1--");

@@ -254,7 +254,7 @@ public final class GroundTest {
         Check.addOf(small, 2, 0, 1, 419);
         c.same("step 6 a large one goes ahead of a small one that is to wait longer",
                 minute(small, 0, 'T') + '/' + minute(small, 1, 'T'), "430/426");
-        RunwayLoom line = ready(10 / 2);
+        RunwayLoom line = ready(5);
         line.turnRunway(421);
         c.same("step 6 many in line", Check.each(flight -> minute(line, flight, 'T'), 0, 1, 2, 3, 4),
                 "431 433 435 437 439");

@@ -100,7 +100,10 @@ public final class ReckonTest {
             x.turnRunway(free - 20);
         }
         c.same("step 6 the minute of the take-off", x.minuteOf(0, 'T'), free);
-        return x.cause(0);
+        char cause = x.cause(0);
+        x.waitFor(0, 5);
+        c.same("22 the minutes are counted from none on as the day is run anew", x.cause(0), cause);
+        return cause;
     }
 
     private static void mostMinutes() {
